@@ -137,18 +137,26 @@ public final class ModelTest {
         String[] names = OURS.keySet().toArray(new String[0]);
         boolean busy = random.nextInt(3) > 0;
         boolean waves = random.nextInt(4) == 0;
+        boolean noting = random.nextInt(4) == 0;
+        boolean telling = random.nextInt(3) == 0;
         while (calls.size() < 500) {
             int kind = random.nextInt(10);
             if (busy && kind < 4) {
                 drawn(any("pass", "pass", "come", "emergency", "over", "told", "of", "recorded", "phaseOf", "tell"));
             } else if (waves && kind < 6) {
                 drawn(any("node", "change", "band", "nodeBest", "tune", "count"));
-            } else if (kind == 6) {
+            } else if (kind == 6 && noting) {
                 noteWhatWillBe();
-            } else if (kind == 7) {
+            } else if (kind == 7 && telling) {
                 tellLights();
-            } else {
+            } else if (kind == 8 && telling) {
+                tellGreens();
+            } else if (kind == 9 && telling) {
+                fillTapes();
+            } else if (noting || random.nextInt(4) > 0) {
                 drawn(any(names));
+            } else {
+                drawn(any("pass", "come", "told", "of", "could", "recorded", "greens"));
             }
         }
     }
@@ -165,6 +173,33 @@ public final class ModelTest {
             call("note", second + n, set);
         }
         drawn("fits");
+    }
+
+    private void tellGreens() throws Exception {
+        call("green", -1, 0, 0);
+        long start = between(0, 200);
+        for (long k = between(1, 8); k > 0; k--) {
+            long from = start + between(0, 60);
+            call("green", between(0, 7), from, from + between(1, 20));
+        }
+        call("proved");
+        for (int k = 0; k < 4; k++) {
+            call("crowded", start + between(0, 90), 1);
+            call("could", between(0, 3) + 8 * between(0, 3), start + between(0, 90), 1);
+        }
+    }
+
+    private void fillTapes() throws Exception {
+        long sort = between(0, 4);
+        call("tape", 1, sort, between(3, 9));
+        call("tape", 2, random.nextInt(4) == 0 ? between(0, 4) : sort, between(3, 9));
+        for (int k = 0; k < 6; k++) {
+            call("item", between(1, 2), between(0, 8), random.nextLong());
+        }
+        call("shift", between(1, 2), between(0, 4), between(1, 2), between(0, 4), between(0, 5));
+        for (int k = 0; k < 6; k++) {
+            call("peek", between(1, 2), between(0, 8));
+        }
     }
 
     private void tellLights() throws Exception {

@@ -242,10 +242,7 @@ public final class SafeClears {
     }
 
     public int of(int signal, int what) {
-        if (!isSignal(signal) || !within(what, 0, 13)) {
-            return NONE;
-        }
-        return control.factOf(signal, what);
+        return isSignal(signal) ? control.factOf(signal, what) : NONE;
     }
 
     public int way(int signal, int k) {
@@ -1346,7 +1343,6 @@ public final class SafeClears {
             int signal = number;
             number++;
             kinds[signal] = kind;
-            lengths[signal] = 0;
             addCell(signal, cell);
             return signal;
         }
@@ -1600,7 +1596,6 @@ public final class SafeClears {
             number++;
             sets[phase] = set;
             forces[phase] = force;
-            comings[phase] = 0;
             return phase;
         }
 

@@ -72,6 +72,14 @@ public final class PlansTapesTest {
         SafeClears y = Due.twoThatMeet(0, 0);
         due.is("not started", y.ends(0), STATE);
         due.is("NONE ahead of STATE", y.ends(2), NONE);
+        SafeClears longest = Due.twoThatMeet(0, 0);
+        longest.come(1, 1);
+        longest.start();
+        for (int k = 0; k < 8; k++) {
+            longest.plan(0, 99);
+        }
+        due.is("one waits for 10 of 792 seconds", longest.ends(0), 10);
+        due.is("seconds counted", longest.count(5), 792);
         SafeClears z = Due.twoThatMeet(0, 0);
         z.come(1, 5);
         z.start();
@@ -333,6 +341,7 @@ public final class PlansTapesTest {
         due.is("place -1", x.peek(0, -1), NO);
         x.tape(0, -1, 0);
         due.is("nothing there any more", x.peek(0, 1), NO);
+        due.is("nothing there any more", x.peek(0, 0), NO);
     }
 
     private static SafeClears tapes() {
@@ -376,6 +385,7 @@ public final class PlansTapesTest {
         due.is("to nothing, ahead of PLACE", x.shift(0, -1, 3, 0, 1), NOTHING);
         due.is("from nothing", x.shift(3, 0, 0, 0, 1), NOTHING);
         due.is("from a tape 6, ahead of NOTHING", x.shift(6, 0, 3, 0, 1), NONE);
+        due.is("to a tape 6, ahead of NOTHING", x.shift(3, 0, 6, 0, 1), NONE);
         due.is("to a tape -1", x.shift(3, 0, -1, 0, 1), NONE);
     }
 }

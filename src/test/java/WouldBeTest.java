@@ -104,12 +104,26 @@ public final class WouldBeTest {
         }
         due.is("the gaps stay", x.of(0, 3), 4);
         due.is("seconds counted", x.count(5), 25 + 18 * 100);
+        due.is("the greatest gap is the best", greatestGapIsBest().best(60, 0), 9);
+        due.is("waited by it", greatestGapIsBest().best(60, 1), 36);
         due.is("what 2, NONE ahead of BAD", x.best(61, 2), NONE);
         due.is("what -1", x.best(0, -1), NONE);
         due.is("n 61", x.best(61, 0), BAD);
         due.is("n -1", x.best(-1, 0), BAD);
         due.is("not started", setUp().best(1, 0), STATE);
         due.is("BAD ahead of STATE", setUp().best(61, 0), BAD);
+    }
+
+    /** Found by trying seeds: by each lesser gap more is waited. */
+    private static SafeClears greatestGapIsBest() {
+        SafeClears x = Due.twoThatMeet(0, 2);
+        x.tell(0, 0, 1);
+        x.tell(0, 3, 2);
+        x.tell(1, 0, 20);
+        x.start();
+        x.come(1, 1);
+        x.seed(562);
+        return x;
     }
 
     private static void note() {

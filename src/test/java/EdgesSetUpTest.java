@@ -64,23 +64,29 @@ public final class EdgesSetUpTest {
         edge.promise("promise 3");
         edge.says("a WAY (1 .. 8 CELLS, one behind the other, none twice): how many");
         edge.play("signal 0 0 | goes 0 63 = 2 | goes 0 1 = 3 | goes 0 62 = 4 | goes 0 7 = 5 | goes 0 8 = 6 | goes 0 56 = 7 | goes 0 9 = 8",
-            "of 0 11 = 8 | way 0 0 = 0 | way 0 1 = 63 | way 0 2 = 1 | way 0 3 = 62 | way 0 4 = 7 | way 0 5 = 8 | way 0 6 = 56 | way 0 7 = 9",
+            "of 0 11 = 8 | way 0 0 = 0 | way 0 1 = 63 | way 0 2 = 1 | way 0 3 = 62 | way 0 4 = 7 | way 0 5 = 8 | way 0 6 = 56"
+                + " | way 0 7 = 9",
             "goes 0 10 = FULL");
         String seven = "signal 1 0 | goes 0 1 | goes 0 2 | goes 0 3 | goes 0 4 | goes 0 5 | goes 0 6";
         edge.play(seven, "goes 0 7 = 8 | goes 0 8 = FULL");
-        edge.refused(seven + " | goes 0 7", "goes 0 8 = FULL | goes 0 63 = FULL | goes 0 7 = BAD | goes 0 0 = BAD | goes 0 64 = BAD | goes 0 -1 = BAD");
+        edge.refused(seven + " | goes 0 7", "goes 0 8 = FULL | goes 0 63 = FULL | goes 0 7 = BAD | goes 0 0 = BAD | goes 0 64 = BAD"
+            + " | goes 0 -1 = BAD");
         edge.says("BAD: no CELL, there already");
-        edge.refused(State.WITH_SIGNALS, "goes 0 -1 = BAD | goes 0 64 = BAD | goes 0 MIN = BAD | goes 0 MAX = BAD | goes 0 0 = BAD | goes 0 1 = BAD"
+        edge.refused(State.WITH_SIGNALS, "goes 0 -1 = BAD | goes 0 64 = BAD | goes 0 MIN = BAD | goes 0 MAX = BAD | goes 0 0 = BAD"
+            + " | goes 0 1 = BAD"
             + " | goes 3 2 = BAD | goes 3 0 = BAD");
         edge.play(State.WITH_SIGNALS, "goes 0 2 = 3 | goes 3 1 = 3 | goes 3 63 = 4");
         edge.says("NONE no such number");
         edge.refused("", "goes 0 0 = NONE | goes -1 0 = NONE | goes 8 0 = NONE | goes 0 64 = NONE");
-        edge.refused(State.WITH_SIGNALS, "goes 4 9 = NONE | goes -1 9 = NONE | goes 8 9 = NONE | goes MIN 9 = NONE | goes MAX 9 = NONE | goes 4 64 = NONE | goes -1 -1 = NONE");
+        edge.refused(State.WITH_SIGNALS, "goes 4 9 = NONE | goes -1 9 = NONE | goes 8 9 = NONE | goes MIN 9 = NONE | goes MAX 9 = NONE"
+            + " | goes 4 64 = NONE | goes -1 -1 = NONE");
         edge.play("8 * signal 0 0 | goes 7 1 = 2 | goes 8 1 = NONE");
         edge.says("STATE: there are PHASES; FULL");
-        edge.refused(State.SET_UP, "goes 0 9 = STATE | goes 3 63 = STATE | goes 0 0 = BAD | goes 0 64 = BAD | goes 4 9 = NONE | goes -1 64 = NONE");
+        edge.refused(State.SET_UP, "goes 0 9 = STATE | goes 3 63 = STATE | goes 0 0 = BAD | goes 0 64 = BAD | goes 4 9 = NONE"
+            + " | goes -1 64 = NONE");
         edge.refused(State.STARTED, "goes 0 9 = STATE | goes 0 1 = BAD | goes 4 9 = NONE");
-        edge.refused(seven + " | goes 0 7 | signal 0 0 | phase 2 0", "goes 0 8 = STATE | goes 0 7 = BAD | goes 1 1 = STATE | goes 2 1 = NONE");
+        edge.refused(seven + " | goes 0 7 | signal 0 0 | phase 2 0", "goes 0 8 = STATE | goes 0 7 = BAD | goes 1 1 = STATE"
+            + " | goes 2 1 = NONE");
         edge.play(seven, "signal 0 20 | phase 2 0 = 0 | goes 0 7 = STATE | goes 1 21 = STATE");
     }
 
@@ -158,15 +164,19 @@ public final class EdgesSetUpTest {
         edge.says("NONE: signal, what; BAD");
         edge.refused("", "tell 0 0 5 = NONE | tell -1 0 5 = NONE");
         edge.refused(State.SET_UP, "tell 4 0 5 = NONE | tell -1 0 5 = NONE | tell MIN 0 5 = NONE | tell MAX 0 5 = NONE | tell 0 -1 5 = NONE"
-            + " | tell 0 4 5 = NONE | tell 3 MIN 5 = NONE | tell 3 MAX 5 = NONE | tell 4 0 0 = NONE | tell 0 4 -1 = NONE | tell 0 -1 MIN = NONE");
-        edge.refused(State.STARTED, "tell 4 0 5 = NONE | tell 0 4 5 = NONE | tell 0 0 0 = BAD | tell 0 0 21 = BAD | tell 0 1 2 = BAD | tell 1 1 3 = BAD");
-        edge.play(State.STARTED, "tell 0 0 1 = 3 | tell 0 1 1 = 20 | tell 1 1 99 = 9 | tell 1 0 20 = 4 | tell 1 1 20 = 99 | tell 3 3 60 = 0");
+            + " | tell 0 4 5 = NONE | tell 3 MIN 5 = NONE | tell 3 MAX 5 = NONE | tell 4 0 0 = NONE | tell 0 4 -1 = NONE"
+            + " | tell 0 -1 MIN = NONE");
+        edge.refused(State.STARTED, "tell 4 0 5 = NONE | tell 0 4 5 = NONE | tell 0 0 0 = BAD | tell 0 0 21 = BAD | tell 0 1 2 = BAD"
+            + " | tell 1 1 3 = BAD");
+        edge.play(State.STARTED, "tell 0 0 1 = 3 | tell 0 1 1 = 20 | tell 1 1 99 = 9 | tell 1 0 20 = 4 | tell 1 1 20 = 99"
+            + " | tell 3 3 60 = 0");
     }
 
     private static void feed() {
         edge.promise("promise 5");
         edge.says("a sign (0 .. 127): how many it has; THE TEXT (bytes, 100 at most)");
-        edge.play("feed 0 = 1 | feed 127 = 2 | feed 1 = 3 | feed 126 = 4 | 95 * feed 99 | count 0 = 99 | feed 9 = 100 | feed 9 = FULL | count 0 = 100");
+        edge.play("feed 0 = 1 | feed 127 = 2 | feed 1 = 3 | feed 126 = 4 | 95 * feed 99 | count 0 = 99 | feed 9 = 100 | feed 9 = FULL"
+            + " | count 0 = 100");
         edge.refused("", "feed -1 = BAD | feed 128 = BAD | feed MIN = BAD | feed MAX = BAD | feed 256 = BAD");
         edge.refused(State.SET_UP, "feed -1 = BAD | feed 128 = BAD");
         edge.refused("99 * feed 99", "feed -1 = BAD | feed 128 = BAD");
@@ -226,7 +236,8 @@ public final class EdgesSetUpTest {
         fault("Ca1", 0);
         edge.says("CELLS (a .. h and 1 .. 8 each)");
         edge.play("text 'ca1;ch1;ca8;ch8' | read = 4 | way 0 0 = 0 | way 1 0 = 7 | way 2 0 = 56 | way 3 0 = 63");
-        edge.play("text 'tb7;bg2;wc3d4e5f6' | read = 3 | way 0 0 = 49 | way 1 0 = 14 | way 2 0 = 18 | way 2 1 = 27 | way 2 2 = 36 | way 2 3 = 45");
+        edge.play("text 'tb7;bg2;wc3d4e5f6' | read = 3 | way 0 0 = 49 | way 1 0 = 14 | way 2 0 = 18 | way 2 1 = 27 | way 2 2 = 36"
+            + " | way 2 3 = 45");
         fault("c`1", 1);
         fault("ci1", 1);
         fault("cA1", 1);
@@ -257,6 +268,10 @@ public final class EdgesSetUpTest {
         fault("ca1b1b1", 6);
         fault("ca1b1c1d1e1f1g1a1", 16);
         fault("ca1b1c1d1e1f1g1g1", 16);
+        fault("ca2a2", 4);
+        fault("ch8a1h8", 6);
+        fault("cb7a8b7", 6);
+        read("cb1b2b3b8", 1);
         read("ca1a2b1b2", 1);
         read("ca1;ca1", 2);
         edge.says("no blanks");
@@ -406,14 +421,17 @@ public final class EdgesSetUpTest {
         edge.play("5 * signal 0 0 | text 'ca1;wb1;tc1;bd1' | read = FULL | told 16 = 5 | count 0 = 0 | of 5 0 = NONE");
         edge.play("5 * signal 0 0 | text 'ca1;wb1;tc1' | read = 3 | told 16 = 8");
         edge.play("7 * signal 0 0 | text 'wb1@7' | read = 1 | told 16 = 8 | of 7 4 = 7");
-        edge.play("7 * signal 0 0 | text 'wb1@7;wb1' | read = FULL | told 16 = 7 | count 0 = 0 | signal 1 1 = 7 | of 7 4 = 0 | of 7 11 = 1");
+        edge.play("7 * signal 0 0 | text 'wb1@7;wb1' | read = FULL | told 16 = 7 | count 0 = 0 | signal 1 1 = 7 | of 7 4 = 0"
+            + " | of 7 11 = 1");
         edge.play(EIGHT + " | text 'ca1' | read = FULL | count 0 = 0 | text 'ca1;' | read = -14 | count 0 = 0 | read = -10 | told 16 = 8");
         edge.refused(EIGHT, "read = -10");
         edge.refused(State.WITH_SIGNALS + " | feed 49 | read = 1", "read = -10");
         edge.says("STATE: STARTED (ahead of all); THE TEXT is empty then in any case");
-        edge.play(State.STARTED, "read = STATE | count 0 = 0 | told 16 = 4 | text 'ca1' | read = STATE | count 0 = 0 | text 'x' | read = STATE | count 0 = 0 | read = STATE");
+        edge.play(State.STARTED, "read = STATE | count 0 = 0 | told 16 = 4 | text 'ca1' | read = STATE | count 0 = 0 | text 'x'"
+            + " | read = STATE | count 0 = 0 | read = STATE");
         edge.refused(State.STARTED + " | read = STATE", "read = STATE");
-        edge.play(EIGHT + " | phase 1 0 | start | text 'ca1' | read = STATE | count 0 = 0 | text 'c' | read = STATE | count 0 = 0 | told 16 = 8");
+        edge.play(EIGHT + " | phase 1 0 | start | text 'ca1' | read = STATE | count 0 = 0 | text 'c' | read = STATE | count 0 = 0"
+            + " | told 16 = 8");
         edge.says("there may be PHASES");
         edge.play("signal 0 0 | phase 1 0 | text 'wa1' | read = 1 | of 1 12 = 1 | clear 1 0 = 6 | phase 3 0 = STATE | phase 2 0 = 1");
         edge.says("what is read was not there before");
@@ -437,22 +455,28 @@ public final class EdgesSetUpTest {
         edge.says("SIGNALS (bits; one at least); BAD: set (none; others than SIGNALS)");
         edge.refused("", "phase 1 0 = BAD | phase 0 0 = BAD | phase -1 0 = BAD | phase 1 -1 = BAD");
         edge.play("signal 0 0 | phase 1 0 = 0 | phaseOf 0 0 = 1");
-        edge.refused("signal 0 0", "phase 0 0 = BAD | phase 2 0 = BAD | phase 3 0 = BAD | phase -1 0 = BAD | phase MIN 0 = BAD | phase MAX 0 = BAD");
+        edge.refused("signal 0 0", "phase 0 0 = BAD | phase 2 0 = BAD | phase 3 0 = BAD | phase -1 0 = BAD | phase MIN 0 = BAD"
+            + " | phase MAX 0 = BAD");
         edge.play("7 * signal 0 0 | phase 64 0 = 0 | phaseOf 0 0 = 64");
         edge.refused("7 * signal 0 0", "phase 128 0 = BAD | phase 192 0 = BAD | phase 0 0 = BAD");
         edge.play(apart, "phase 255 0 = 0 | phase 128 0 = 1 | phase 1 0 = 2 | phaseOf 0 0 = 255 | phaseOf 1 0 = 128 | phaseOf 2 0 = 1");
-        edge.refused(apart, "phase 256 0 = BAD | phase 511 0 = BAD | phase 0 0 = BAD | phase -1 0 = BAD | phase -255 0 = BAD | phase MIN 0 = BAD");
+        edge.refused(apart, "phase 256 0 = BAD | phase 511 0 = BAD | phase 0 0 = BAD | phase -1 0 = BAD | phase -255 0 = BAD"
+            + " | phase MIN 0 = BAD");
         edge.says("a FORCE (0 .. 239)");
         edge.play("signal 0 0 | phase 1 0 = 0 | phase 1 239 = 1 | phase 1 1 = 2 | phase 1 238 = 3 | phaseOf 0 1 = 0 | phaseOf 1 1 = 239");
-        edge.refused(State.SET_UP, "phase 1 -1 = BAD | phase 1 240 = BAD | phase 1 MIN = BAD | phase 1 MAX = BAD | phase 16 0 = BAD | phase 0 0 = BAD | phase -1 0 = BAD");
+        edge.refused(State.SET_UP, "phase 1 -1 = BAD | phase 1 240 = BAD | phase 1 MIN = BAD | phase 1 MAX = BAD | phase 16 0 = BAD"
+            + " | phase 0 0 = BAD | phase -1 0 = BAD");
         edge.says("none of which MEET; STATE: STARTED, two MEET");
         edge.refused(State.SET_UP, "phase 3 0 = STATE | phase 7 0 = STATE | phase 15 239 = STATE | phase 9 0 = STATE | phase 10 0 = STATE"
             + " | phase 3 240 = BAD | phase 3 -1 = BAD | phase 19 0 = BAD");
         edge.play(State.SET_UP, "phase 5 0 = 3 | phase 1 0 = 4 | phase 8 0 = 5");
-        edge.refused(State.STARTED, "phase 1 0 = STATE | phase 8 239 = STATE | phase 3 0 = STATE | phase 0 0 = BAD | phase 16 0 = BAD | phase 1 240 = BAD | phase 1 -1 = BAD");
+        edge.refused(State.STARTED, "phase 1 0 = STATE | phase 8 239 = STATE | phase 3 0 = STATE | phase 0 0 = BAD | phase 16 0 = BAD"
+            + " | phase 1 240 = BAD | phase 1 -1 = BAD");
         edge.says("PHASES 0 .. 5, as they come; FULL");
-        edge.play("signal 0 0 | signal 0 0 | 5 * phase 1 0 | told 17 = 5 | phaseOf 5 0 = NONE | phase 2 9 = 5 | told 17 = 6 | phaseOf 5 0 = 2 | phaseOf 5 1 = 9 | phase 1 0 = FULL");
-        edge.refused("signal 0 0 | signal 0 0 | 6 * phase 1 0", "phase 1 0 = FULL | phase 2 239 = FULL | phase 3 0 = STATE | phase 0 0 = BAD | phase 4 0 = BAD | phase 1 240 = BAD");
+        edge.play("signal 0 0 | signal 0 0 | 5 * phase 1 0 | told 17 = 5 | phaseOf 5 0 = NONE | phase 2 9 = 5 | told 17 = 6"
+            + " | phaseOf 5 0 = 2 | phaseOf 5 1 = 9 | phase 1 0 = FULL");
+        edge.refused("signal 0 0 | signal 0 0 | 6 * phase 1 0", "phase 1 0 = FULL | phase 2 239 = FULL | phase 3 0 = STATE"
+            + " | phase 0 0 = BAD | phase 4 0 = BAD | phase 1 240 = BAD");
         edge.refused("signal 0 0 | signal 0 0 | 6 * phase 1 0 | start", "phase 1 0 = STATE | phase 3 0 = STATE | phase 4 0 = BAD");
         edge.says("SIGNALS that come later are not in it");
         edge.play("signal 0 0 | phase 1 0 | signal 0 0 = 1 | phase 2 0 = 1 | phaseOf 0 0 = 1 | phase 3 0 = STATE");
@@ -468,7 +492,9 @@ public final class EdgesSetUpTest {
         edge.refused(State.STARTED, "start = STATE");
         edge.refused("signal 0 0 | phase 1 0 | start", "start = STATE");
         edge.says("STARTED: PHASE 0 comes ON, all SIGNALS are RED, SECOND is 0");
-        edge.play(State.SET_UP, "told 1 = NEVER | phaseOf 0 2 = 0 | start = 3 | told 1 = 0 | phaseOf 0 2 = 1 | phaseOf 1 2 = 0 | phaseOf 2 2 = 0 | told 0 = 0 | told 7 = 0",
-            "told 8 = 0 | of 0 6 = 0 | of 3 6 = 0 | told 2 = NEVER | told 3 = NEVER | told 4 = 0 | of 0 5 = 5 | of 0 9 = NEVER | told 10 = 7");
+        edge.play(State.SET_UP, "told 1 = NEVER | phaseOf 0 2 = 0 | start = 3 | told 1 = 0 | phaseOf 0 2 = 1 | phaseOf 1 2 = 0"
+            + " | phaseOf 2 2 = 0 | told 0 = 0 | told 7 = 0",
+            "told 8 = 0 | of 0 6 = 0 | of 3 6 = 0 | told 2 = NEVER | told 3 = NEVER | told 4 = 0 | of 0 5 = 5 | of 0 9 = NEVER"
+                + " | told 10 = 7");
     }
 }

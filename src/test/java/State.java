@@ -13,7 +13,8 @@ final class State {
     /** Signals 0 to 3, phases 0 to 2, not started. */
     static final String SET_UP = BEFORE + " | phase 5 10 | phase 2 20 | phase 8 15 | image | come 2 1 | text 'cb'";
     /** The same, started; a phase is cut for an emergency; some are green. */
-    static final String STARTED = SET_UP + " | start = 3 | cycle 60 7 20 | pass 25 | image | note 60 0 | pass 21 | emergency 3 | pass 9 | come 1 4";
+    static final String STARTED = SET_UP + " | start = 3 | cycle 60 7 20 | pass 25 | image | note 60 0 | pass 21 | emergency 3 | pass 9"
+        + " | come 1 4";
     /** All seconds are counted, of what was not started, and behind STARTED. */
     static final String ALL_COUNTED = " | 60 * tune | count 5 = 12000";
     static final String COUNTED_BEHIND_STARTED = " | 59 * tune | pass 99 | pass 46 | count 5 = 12000";

@@ -6,7 +6,8 @@ import java.util.Map;
 
 /**
  * Looks at boundaries. Calls are written as a text: "signal 0 63 = 1 | signal 0 64 = BAD | 99 * pass 1", with the
- * answer that is due behind them; a call without one must not be refused. "text 'ca1;cb1'" feeds these signs.
+ * answer that is due behind them; a call without one must not be refused, but for "? told 0", whose answer does not
+ * matter. "text 'ca1;cb1'" feeds these signs.
  */
 final class Edge {
     private static final int MOST_CALLS = 512;
@@ -71,6 +72,14 @@ final class Edge {
         }
     }
 
+    /** An answer that a test asked for itself. */
+    void is(String call, long got, long due) {
+        looked++;
+        if (got != due) {
+            fault(call, "answered " + got + ", due is " + due);
+        }
+    }
+
     /** Behind both runs of calls all is alike. */
     void alike(String calls, String others) {
         List<long[]> due = stateBehind(others, "");
@@ -123,6 +132,10 @@ final class Edge {
             for (char sign : call.substring(6, call.length() - 1).toCharArray()) {
                 playOne(played, "feed " + (int) sign);
             }
+            return;
+        }
+        if (call.startsWith("? ")) {
+            played.answer(call.substring(2));
             return;
         }
         int equals = call.indexOf(" = ");
